@@ -1,0 +1,147 @@
+import java.io.IOException;
+import java.lang.reflect.Constructor;
+import java.lang.reflect.Field;
+import java.lang.reflect.InvocationTargetException;
+import java.lang.reflect.Method;
+import java.lang.reflect.Modifier;
+import java.nio.file.Files;
+import java.nio.file.Path;
+import java.util.Random;
+import java.util.Set;
+import java.util.TreeSet;
+
+/** The public face, some rules of LANGUAGE.md that can be looked at, and that no call throws by itself. */
+final class FaceTest {
+    private static final Due DUE = new Due("FaceTest");
+    private static final String[] FACE = {"int feed(int,int,int,int,int)", "int text(int)", "int fault(int)",
+        "int named(int,int)", "int man(int,int)", "int sort(int,int)", "int deed(int)", "int sending(int,int)",
+        "int want(int,int)", "int holds(int,int)", "int port(int,int)", "int can(int,int,int)", "long law(int,int,int)",
+        "int send(int,int,int)", "boolean take(int)", "boolean swap(int,int,int)", "int lend(int,int)", "int go(int)",
+        "int ahead(int,int,int)", "int first(int,int,int)", "int load(int)", "int order(int)", "int swaps()",
+        "int together(int,int,int)", "int needs(int,int,int)", "int cheap(int,int,int)", "int rests(int,int,int)",
+        "int rest(int,int,int,int)", "long calm(int,int)", "int whose(int,int)", "int those(int)",
+        "int see(int,int,int,boolean)", "int out(int)", "boolean known(int)", "int rooms()", "int chance(int,int,int)",
+        "int tried(int,int,int)", "int undo()", "int keep()", "int back()", "int count(int)"};
+
+    public static void main(String[] args) throws Exception {
+        theFace();
+        theInside();
+        theSource();
+        roughCalls();
+        DUE.end();
+    }
+
+    private static String told(Method method) {
+        StringBuilder told = new StringBuilder(method.getReturnType().getName()).append(' ').append(method.getName()).append('(');
+        for (Class<?> type : method.getParameterTypes()) {
+            told.append(told.charAt(told.length() - 1) == '(' ? "" : ",").append(type.getName());
+        }
+        return told.append(')').toString();
+    }
+
+    private static void theFace() throws Exception {
+        Set<String> due = new TreeSet<>(Set.of(FACE));
+        Set<String> got = new TreeSet<>();
+        for (Method method : PartsFerry.class.getDeclaredMethods()) {
+            if (!Modifier.isPrivate(method.getModifiers())) {
+                got.add(told(method));
+                DUE.is(told(method) + " is public", Modifier.isPublic(method.getModifiers()), true);
+                DUE.is(told(method) + " is static", Modifier.isStatic(method.getModifiers()), false);
+            }
+        }
+        DUE.is("the methods " + got, got.equals(due), true);
+        DUE.is("NONE", PartsFerry.NONE, -1);
+        for (Field field : PartsFerry.class.getDeclaredFields()) {
+            boolean isPrivate = Modifier.isPrivate(field.getModifiers());
+            DUE.is(field.getName() + " is private", isPrivate, !field.getName().equals("NONE"));
+        }
+        Constructor<?>[] made = PartsFerry.class.getDeclaredConstructors();
+        DUE.is("constructors", made.length, 1);
+        DUE.is("which is public", Modifier.isPublic(made[0].getModifiers()), true);
+        int modifiers = PartsFerry.class.getModifiers();
+        DUE.is("a public final class", Modifier.isFinal(modifiers) && Modifier.isPublic(modifiers), true);
+        Method man = PartsFerry.class.getMethod("man", int.class, int.class);
+        DUE.is("man names what it throws", man.getExceptionTypes().length, 2);
+    }
+
+    private static void theInside() {
+        Set<String> names = new TreeSet<>();
+        for (String method : FACE) {
+            names.add(method.substring(method.indexOf(' ') + 1, method.indexOf('(')));
+        }
+        int classes = 1;
+        for (Class<?> inside : PartsFerry.class.getDeclaredClasses()) {
+            classes++;
+            DUE.is(inside + " is static and private", Modifier.isStatic(inside.getModifiers())
+                    && Modifier.isPrivate(inside.getModifiers()), true);
+            for (Method method : inside.getDeclaredMethods()) {
+                DUE.is(inside + " has " + method.getName() + ", as the face has", names.contains(method.getName()), false);
+                DUE.is(method + " has seven parameters at most", method.getParameterCount() <= 7, true);
+            }
+            int fields = 0;
+            for (Field field : inside.getDeclaredFields()) {
+                fields += Modifier.isStatic(field.getModifiers()) ? 0 : 1;
+            }
+            DUE.is(inside + " has some twenty fields at most", fields <= 20, true);
+        }
+        DUE.is("some twelve classes at most", classes <= 12, true);
+    }
+
+    /** The tests run from the project's folder. */
+    private static void theSource() throws IOException {
+        String source = Files.readString(Path.of("src/main/java/PartsFerry.java"));
+        for (String none : new String[] {"catch", "finally", "synchronized", "assert ", "->", "::", "Exact", "Random",
+            "java.io", "java.time", "System.nano", "System.current", "Thread", "package ", "double", "float"}) {
+            DUE.is("the source has " + none, source.contains(none), false);
+        }
+        int sinceBrace = 0;
+        int longest = 0;
+        for (String line : source.split("\n")) {
+            sinceBrace = line.matches(" +[a-z].*\\) .*\\{") && !line.matches(" +(if|for|while|switch|\\}).*") ? 0 : sinceBrace + 1;
+            longest = line.matches("( {4}){1,2}\\}") ? Math.max(longest, sinceBrace) : longest;
+        }
+        DUE.is("methods of some sixty lines at most: " + longest, longest <= 60, true);
+    }
+
+    /** Calls with any numbers at all: but for man() none throws. */
+    private static void roughCalls() throws Exception {
+        Random random = new Random(5);
+        for (int run = 0; run < 200; run++) {
+            PartsFerry x = DUE.ferry(run % 4 == 0 ? "" : "man a 99;man b 70;sort s 2 3;sort t 5 9;deed d 3;deed e 1;send a s 0;send b s 0;"
+                    + "want a d 0 0 9;want b e 1 1 5;storm " + run % 101 + ";law fare size*(day+1)/(aboard+1);law gain worth/day;");
+            for (int call = 0; call < 400; call++) {
+                Method method = PartsFerry.class.getMethods()[random.nextInt(PartsFerry.class.getMethods().length)];
+                if (method.getDeclaringClass() == PartsFerry.class) {
+                    Object[] with = new Object[method.getParameterCount()];
+                    for (int i = 0; i < with.length; i++) {
+                        with[i] = method.getParameterTypes()[i] == boolean.class ? random.nextBoolean() : rough(random);
+                    }
+                    callOne(x, method, with);
+                }
+            }
+        }
+    }
+
+    private static Object rough(Random random) {
+        switch (random.nextInt(6)) {
+            case 0:
+                return random.nextInt();
+            case 1:
+                return Integer.MIN_VALUE + random.nextInt(3);
+            case 2:
+                return Integer.MAX_VALUE - random.nextInt(3);
+            case 3:
+                return random.nextInt(120) - 10;
+            default:
+                return random.nextInt(4);
+        }
+    }
+
+    private static void callOne(PartsFerry x, Method method, Object[] with) throws IllegalAccessException {
+        try {
+            method.invoke(x, with);
+        } catch (InvocationTargetException e) {
+            DUE.is(method.getName() + " throws " + e.getCause(), method.getName().equals("man"), true);
+        }
+    }
+}
