@@ -1092,7 +1092,9 @@ public final class PartsFerry {
                     at.storms++;
                     mixAll();
                 }
-                land();
+                if (aboard > 0) {
+                    land();
+                }
                 at.day++;
             }
         }
@@ -1160,6 +1162,7 @@ public final class PartsFerry {
 
         private void mixAll() {
             for (int sort = 0; sort < told.counts[SORTS]; sort++) {
+                // without a law, and with an error, it is not 0 either
                 if (mixLaw(sort) != 0) {
                     mixTwo(sort);
                 }
@@ -1626,6 +1629,7 @@ public final class PartsFerry {
             tokens.step();
         }
 
+        /** The cases are the places of the words in LANGUAGE. */
         private void readLine() {
             int word = tokens.kind == Tokens.WORD ? tokens.value : NONE;
             switch (word) {

@@ -6,6 +6,8 @@ import java.lang.reflect.Method;
 import java.lang.reflect.Modifier;
 import java.nio.file.Files;
 import java.nio.file.Path;
+import java.util.Arrays;
+import java.util.Comparator;
 import java.util.Random;
 import java.util.Set;
 import java.util.TreeSet;
@@ -94,24 +96,30 @@ final class FaceTest {
             "java.io", "java.time", "System.nano", "System.current", "Thread", "package ", "double", "float"}) {
             DUE.is("the source has " + none, source.contains(none), false);
         }
-        int sinceBrace = 0;
-        int longest = 0;
-        for (String line : source.split("\n")) {
-            sinceBrace = line.matches(" +[a-z].*\\) .*\\{") && !line.matches(" +(if|for|while|switch|\\}).*") ? 0 : sinceBrace + 1;
-            longest = line.matches("( {4}){1,2}\\}") ? Math.max(longest, sinceBrace) : longest;
+        String[] lines = source.split("\n");
+        for (int i = 0; i < lines.length; i++) {
+            if (lines[i].matches("( {4}| {8})(?!if|for|while|switch|else|do)[a-zA-Z].*\\(.*\\{")) {
+                String end = lines[i].replaceFirst("[a-zA-Z].*", "}");
+                int length = 1;
+                while (!lines[i + length].equals(end)) {
+                    length++;
+                }
+                DUE.is(lines[i] + " has " + length + " lines, more than some sixty", length > 60, false);
+            }
         }
-        DUE.is("methods of some sixty lines at most: " + longest, longest <= 60, true);
     }
 
     /** Calls with any numbers at all: but for man() none throws. */
     private static void roughCalls() throws Exception {
         Random random = new Random(5);
+        Method[] methods = PartsFerry.class.getDeclaredMethods();
+        Arrays.sort(methods, Comparator.comparing(FaceTest::told));
         for (int run = 0; run < 200; run++) {
             PartsFerry x = DUE.ferry(run % 4 == 0 ? "" : "man a 99;man b 70;sort s 2 3;sort t 5 9;deed d 3;deed e 1;send a s 0;send b s 0;"
                     + "want a d 0 0 9;want b e 1 1 5;storm " + run % 101 + ";law fare size*(day+1)/(aboard+1);law gain worth/day;");
             for (int call = 0; call < 400; call++) {
-                Method method = PartsFerry.class.getMethods()[random.nextInt(PartsFerry.class.getMethods().length)];
-                if (method.getDeclaringClass() == PartsFerry.class) {
+                Method method = methods[random.nextInt(methods.length)];
+                if (Modifier.isPublic(method.getModifiers())) {
                     Object[] with = new Object[method.getParameterCount()];
                     for (int i = 0; i < with.length; i++) {
                         with[i] = method.getParameterTypes()[i] == boolean.class ? random.nextBoolean() : rough(random);
