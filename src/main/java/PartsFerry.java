@@ -706,6 +706,7 @@ public final class PartsFerry {
     /** What a text tells; nothing that goes by changes it. */
     private static final class Told {
         final int[] counts = new int[3];
+        /** By kinds: of each there are as many as people at most. */
         final int[] names = new int[3 * MOST_PEOPLE];
         final int[] pence = new int[MOST_PEOPLE];
         final int[] size = new int[MOST_SORTS];

@@ -10,6 +10,7 @@ final class AheadTest {
         aheadAsItGoes();
         first();
         load();
+        loadOfMuchRoom();
         loadOnceEach();
         order();
         orderOfFewer();
@@ -106,6 +107,21 @@ final class AheadTest {
         DUE.is("not what was taken back", x.load(0), 2);
     }
 
+    private static void loadOfMuchRoom() {
+        StringBuilder text = new StringBuilder("man a 0;man b 0;man c 0;man d 0;sort s 9 7;sort t 3 2;room 30;");
+        for (char man = 'a'; man <= 'd'; man++) {
+            text.append("send ").append(man).append(" s 0;send ").append(man).append(" t 0;");
+        }
+        PartsFerry x = DUE.ferry(text.toString());
+        DUE.is("three of 9 and one of 3", x.load(0), 1 | 2 | 4 | 16);
+        DUE.is("their rates", x.load(1), 23);
+        for (int sending = 0; sending < 8; sending++) {
+            x.take(sending);
+        }
+        DUE.is("nothing any more", x.load(0), 0);
+        DUE.is("no rates", x.load(1), 0);
+    }
+
     private static void loadOnceEach() {
         PartsFerry x = DUE.ferry("man a 0;sort s 1 5;sort t 9 6;send a t 0;send a s 0;send a s 0;send a s 0;room 9;");
         DUE.is("each part once", x.load(0), 1);
@@ -134,7 +150,7 @@ final class AheadTest {
     }
 
     private static void orderOfFewer() {
-        PartsFerry x = DUE.ferry("man a 9;sort s 1 3;deed d 0;send a s 0;send a s 0;send a s 5;want a d 0 25 9;want a d 0 19 1;");
+        PartsFerry x = DUE.ferry("man a 9;sort s 1 3;deed d 0;send a s 0;send a s 0;send a s 5;want a d 0 20 9;want a d 0 19 1;");
         DUE.is("first", x.order(0), 0);
         DUE.is("third", x.order(2), 2);
         DUE.is("not so many", x.order(3), -2);

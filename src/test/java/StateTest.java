@@ -246,8 +246,13 @@ final class StateTest {
         DUE.is("0 at least", x.man(0, 0), 50);
         x = DUE.ferry("man a 50;sort s 1 7;deed d 0;want a d 0 0 9;send a s 0;law fare 3000;law gain 3000;");
         DUE.is("the law itself may be more", x.law(0, 0, 0), 3000);
+        DUE.is("a gain of 999 at most, and a fare", x.ahead(1, 3, 0), 50 + 999 - 999);
+        x = DUE.ferry("man a 999;sort s 1 7;send a s 0;law fare 1000;");
         x.go(1);
-        DUE.is("999 at most", x.man(0, 0), 50 + 999 - 999);
+        DUE.is("a fare of 999 at most", x.man(0, 0), 0);
+        x = DUE.ferry("man a 5;deed d 0;want a d 0 0 9;law gain 1000;");
+        x.go(1);
+        DUE.is("a gain of 999 at most", x.man(0, 0), 5 + 999);
         x = DUE.ferry("man a 9;man b 9;sort s 1 0;send a s 0;send b s 0;storm 100;law mix 1/0;");
         x.go(1);
         DUE.is("mixed with an error", x.count(11), 2);

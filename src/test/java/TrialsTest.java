@@ -69,7 +69,7 @@ final class TrialsTest {
     }
 
     private static void triedOtherwise() {
-        PartsFerry x = DUE.ferry("man a 3;sort s 1 5;deed d 1;send a s 0;want a d 1 1 1;");
+        PartsFerry x = DUE.ferry("man a 0;sort s 1 5;deed d 1;send a s 0;want a d 1 1 1;");
         DUE.is("can't pay", x.tried(0, 0, 2), 0);
         DUE.is("free", x.tried(4, 0, 2), 1);
         x = DUE.ferry("man a 3;sort s 1 0;deed d 1;send a s 0;want a d 1 1 1;law fare 50;");
