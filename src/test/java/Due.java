@@ -1,16 +1,22 @@
 /** What the tests share: counts answers that are not as due, and feeds texts. */
 final class Due {
     private final String test;
+    private String sentence = "";
     private int wrong = 0;
 
     Due(String test) {
         this.test = test;
     }
 
+    /** From here on answers are held against this sentence of the document. */
+    void says(String where, String words) {
+        sentence = " [" + where + ": " + words + "]";
+    }
+
     void is(String call, long got, long want) {
         if (got != want) {
             wrong++;
-            System.out.println(test + ": " + call + " answered " + got + ", due is " + want);
+            System.out.println(test + ": " + call + " answered " + got + ", due is " + want + sentence);
         }
     }
 
@@ -43,6 +49,24 @@ final class Due {
     static int tell(PartsFerry ferry, String text) {
         feed(ferry, text);
         return ferry.text(text.length());
+    }
+
+    /** Tells a new object a text that has so many lines and no fault. */
+    void right(String text, int lines) {
+        PartsFerry ferry = new PartsFerry();
+        is("text " + text, tell(ferry, text), lines);
+        is("fault(0) of " + text, ferry.fault(0), 0);
+        is("fault(1) of " + text, ferry.fault(1), -1);
+    }
+
+    /** Tells a new object a text that has a fault at the byte behind ^, which is no sign of any text. */
+    void faults(int number, String text) {
+        int place = text.indexOf('^');
+        String told = text.substring(0, place) + text.substring(place + 1);
+        PartsFerry ferry = new PartsFerry();
+        is("text " + text, tell(ferry, told), -1);
+        is("fault(0) of " + text, ferry.fault(0), number);
+        is("fault(1) of " + text, ferry.fault(1), place);
     }
 
     /** A new object that is told a text without a fault. */
