@@ -19,6 +19,9 @@ final class Edges1To5Test {
         theFirstBytes();
         emptyThen();
         dayZeroThen();
+        nothingOfTextsAhead();
+        seedsOfTextsAhead();
+        lawsOfTextsAhead();
         nothingSeenThen();
         noImageThen();
         howManyLines();
@@ -190,11 +193,22 @@ final class Edges1To5Test {
             Due.feed(x, text);
             DUE.is("text(" + cuts[lines] + ")", x.text(cuts[lines]), lines);
         }
+        // a word, a number, a sign of two that stand behind the first n are not read on
+        int[] places = {0, 0, 0, 0, 4, 5, 6};
         for (int n = 1; n < 7; n++) {
             PartsFerry x = new PartsFerry();
             Due.feed(x, text);
             DUE.is("text(" + n + ")", x.text(n), -1);
+            DUE.is("its place", x.fault(1), places[n]);
         }
+        PartsFerry cut = new PartsFerry();
+        Due.feed(cut, "man a 9999;");
+        DUE.is("text(9) of man a 9999;", cut.text(9), -1);
+        DUE.is("999 are not too much", cut.fault(0), 1);
+        DUE.is("its place", cut.fault(1), 9);
+        Due.feed(cut, "law fare 1<=>2;");
+        DUE.is("text(11) of law fare 1<=>2;", cut.text(11), -1);
+        DUE.is("its place", cut.fault(1), 11);
         // a number is cut, too
         PartsFerry x = new PartsFerry();
         Due.feed(x, "man a 55;man b 777 ");
@@ -243,6 +257,69 @@ final class Edges1To5Test {
             x.go(1);
             fresh.go(1);
             DUE.is("numbers from the seed on, day " + day, x.count(12), fresh.count(12));
+        }
+    }
+
+    /** Texts one behind another: nothing of the ones ahead is left, with a fault or without. */
+    private static void nothingOfTextsAhead() {
+        String full = "man a 7;man b 8;sort s 9 9;sort t 9 9;deed d 3;send a s 0;send b t 0;want a d 1 1 9;room 30;storm 100;seed 9;"
+                + "law fare 1+2*3;law gain 4;law mix 0;";
+        String[] between = {full, full + "?", "law fare (1+(2*?;", "law fare 1+(not 2;", "law gain ((((((((1;", full};
+        PartsFerry x = new PartsFerry();
+        for (String text : between) {
+            Due.tell(x, full);
+            Due.tell(x, text);
+            Due.tell(x, text);
+            DUE.is("an empty text behind " + text, x.text(0), 0);
+            for (int what = 0; what <= 15; what++) {
+                DUE.is("count(" + what + ") behind " + text, x.count(what), 0);
+            }
+            DUE.is("calm behind " + text, x.calm(1, 0), 1);
+        }
+        String few = "man a 7;man b 7;sort s 9 1;sort t 1 1;send a s 0;send a t 0;send b s 0;send b t 0;";
+        for (int again = 0; again < 3; again++) {
+            Due.tell(x, full);
+            DUE.is("a text", Due.tell(x, few), 8);
+            DUE.is("no deeds", x.count(2), 0);
+            DUE.is("no wants", x.count(4), 0);
+            DUE.is("no knots", x.count(5), 0);
+            for (int what = 0; what < 3; what++) {
+                DUE.is("no law " + what, x.law(what, 0, 0), Long.MIN_VALUE);
+            }
+            DUE.is("room 9", x.ahead(1, 2, 0), 1);
+            DUE.is("no storms", x.calm(1, 0), 1);
+            x.swap(0, 1, 0);
+            x.swap(0, 1, 1);
+        }
+        Due.tell(x, few);
+        DUE.is("own parts again", x.count(11), 0);
+        DUE.is("of a, too", x.man(0, 2), 3);
+    }
+
+    private static void seedsOfTextsAhead() {
+        PartsFerry fresh = DUE.ferry("storm 50;");
+        PartsFerry x = DUE.ferry("storm 50;seed 99999;");
+        Due.tell(x, "storm 50;seed 99999;");
+        Due.tell(x, "storm 50;");
+        for (int day = 0; day < 60; day++) {
+            fresh.go(1);
+            x.go(1);
+            DUE.is("storms from seed 0 on", x.count(12), fresh.count(12));
+        }
+    }
+
+    private static void lawsOfTextsAhead() {
+        String nots = "not ".repeat(63);
+        String sum = "1" + "+1".repeat(31);
+        PartsFerry x = new PartsFerry();
+        for (int again = 0; again < 3; again++) {
+            DUE.is("64 knots", Due.tell(x, "man a 7;sort s 1 1;law fare " + nots + "((((((((1))))))));"), 3);
+            DUE.is("their E", x.law(0, 0, 0), 0);
+            DUE.is("a fault inside E", Due.tell(x, "law fare ((((((((1+2*(3;"), -1);
+            DUE.is("63 knots", Due.tell(x, "man a 7;sort s 1 1;law mix 5;law fare " + sum + ";"), 4);
+            DUE.is("their E", x.law(0, 0, 0), 32);
+            DUE.is("of the other law", x.law(2, 0, 0), 5);
+            DUE.is("a fault behind E", Due.tell(x, "law fare " + nots + "1 1;"), -1);
         }
     }
 

@@ -221,6 +221,15 @@ final class Edges20To32Test {
         String much = "man a 0;man b 0;man c 0;man d 0;sort s 9 7;sort t 3 6;sort u 1 5;send a s 0;send b s 0;send c s 0;send a t 0;send a u 0;room ";
         loadIs("9, 9, 9 and 3 of 30", DUE.ferry(much + "30;"), 15, 27);
         loadIs("9, 9, 9 and 1 of 29", DUE.ferry(much + "29;"), 23, 26);
+        // asked again, it is as it is then
+        PartsFerry x = DUE.ferry(much + "30;");
+        loadIs("at first", x, 15, 27);
+        for (int sending = 0; sending < 4; sending++) {
+            x.take(sending);
+        }
+        loadIs("of what is left", x, 16, 5);
+        x.take(4);
+        loadIs("of nothing", x, 0, 0);
     }
 
     private static void loadOfEachPartOnce() {
@@ -336,6 +345,14 @@ final class Edges20To32Test {
         PartsFerry x = DUE.ferry(text + "send b s 0;");
         x.go(1);
         orderIs("of one that has gone", x, -2, -2, -2, -2, 0);
+        // asked again, it is as it is then: with fewer pence, too
+        PartsFerry y = DUE.ferry(text + "send b s 0;send b t 0;");
+        y.lend(0, 99);
+        orderIs("with pence lent", y, 1, 0, -2, -2, -5);
+        y.undo();
+        orderIs("without", y, 1, 0, -2, -2, -5);
+        y.take(1);
+        orderIs("without the other one", y, 0, -2, -2, -2, -1);
     }
 
     private static void orderOfAnotherWhat() {

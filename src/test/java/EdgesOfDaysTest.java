@@ -32,6 +32,7 @@ final class EdgesOfDaysTest {
         namesOfFare();
         namesOfGain();
         namesOfMix();
+        namesOneBehindAnother();
         namesAboard();
         valuesAreOneOrZero();
         bothSides();
@@ -479,6 +480,30 @@ final class EdgesOfDaysTest {
         namesAre("mix", 2, 1, 2, 1, 1, 0, 0, 0, 0, 3);
     }
 
+    /** What a name was in one law is not what it is in the next one. */
+    private static void namesOneBehindAnother() {
+        for (String name : NAMES) {
+            PartsFerry x = DUE.ferry(PLACE.replace("send a s 0;send a t 0;send b u 0;", "")
+                    + "law fare " + name + ";law gain " + name + ";law mix " + name + ";");
+            long[] alone = new long[3];
+            for (int what = 0; what < 3; what++) {
+                String rule = new String[] {"fare", "gain", "mix"}[what];
+                alone[what] = DUE.ferry(PLACE + "law " + rule + " " + name + ";").law(what, 0, 1);
+            }
+            for (int one = 0; one < 3; one++) {
+                for (int other = 0; other < 3; other++) {
+                    x.law(one, 1, 0);
+                    DUE.is(name + " of law " + other + " behind law " + one, x.law(other, 0, 1), alone[other]);
+                }
+            }
+        }
+        PartsFerry y = DUE.ferry(PLACE + "law fare worth+1;law gain size+rate+2;law mix pence+worth+3;");
+        y.law(1, 0, 0);
+        DUE.is("no worth of fare", y.law(0, 0, 0), 1);
+        DUE.is("no size nor rate of gain", y.law(1, 0, 0), 2);
+        DUE.is("no pence nor worth of mix", y.law(2, 0, 0), 3);
+    }
+
     private static void namesAboard() {
         DUE.says("Terms 2", "aboard: how many PARTS are ABOARD now; away: how many PARTS that this one HOLDS lie at port 1 "
                 + "(of mix how many of that SORT are ABOARD)");
@@ -582,6 +607,11 @@ final class EdgesOfDaysTest {
         DUE.is("at it, 0 times", value("(" + MUCH + ")*0"), 0);
         DUE.is("at it, by -1", value("(" + MUCH + ")*(0-1)"), -TEN_TO_12);
         DUE.is("at it, by 2", value("(" + MUCH + ")*2"), ERROR);
+        DUE.is("-1 times it", value("(0-1)*(" + MUCH + ")"), -TEN_TO_12);
+        DUE.is("-1 times 5", value("(0-1)*5"), -5);
+        DUE.is("-1 times -5", value("(0-1)*(0-5)"), 5);
+        DUE.is("-1 times -1", value("(0-1)*(0-1)"), 1);
+        DUE.is("0 times -5", value("0*(0-5)"), 0);
     }
 
     private static void fiftyAtLeast() {
