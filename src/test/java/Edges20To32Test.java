@@ -384,6 +384,7 @@ final class Edges20To32Test {
         DUE.is("two rings of two", y.swaps(), 2);
         y.swap(1, 4, 0);
         DUE.is("a ring of three, one of two", y.swaps(), 3);
+        DUE.says("Promise 24", "SWAPS");
         DUE.is("nobody", DUE.ferry(FIVE_SORTS).swaps(), 0);
         DUE.is("no sorts", DUE.ferry(FIVE_MEN).swaps(), 0);
         // where the parts lie isn't looked at

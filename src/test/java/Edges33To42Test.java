@@ -53,6 +53,7 @@ final class Edges33To42Test {
         countsOfWhatGoesBy();
         countsOfCalls();
         countOfAnotherWhat();
+        theLastCall();
         DUE.end();
     }
 
@@ -245,6 +246,7 @@ final class Edges33To42Test {
             x.see(1, 0, 0, false);
             DUE.is("not there with size " + size, x.rooms(), (1 << (size - 1)) - 1);
         }
+        DUE.says("Promise 36", "ROOMS (bits)");
         PartsFerry ten = DUE.ferry("man a 9;sort s 9 0;sort t 1 0;send a s 0;send a t 0;");
         ten.see(1, 0, 0, true);
         ten.see(1, 0, 1, true);
@@ -838,6 +840,18 @@ final class Edges33To42Test {
                 DUE.is("count(" + (13 + i) + ") at step " + step, x.count(13 + i), due[step][i]);
             }
         }
+    }
+
+    private static void theLastCall() {
+        DUE.says("What it is", "An object is used for at most 512 calls after it has been made");
+        PartsFerry x = new PartsFerry();
+        // seven to tell a text of 106 bytes, then 504 more
+        DUE.is("text", Due.tell(x, "man a 9;man b 9;sort s 3 1;deed d 1;send a s 0;send b s 2;want a d 1 1 5;want b d 0 9 5;storm 100;room 5;"), 10);
+        for (int call = 8; call < 512; call++) {
+            int day = x.go(call < 400 ? 1 : 0);
+            DUE.is("call " + call, day, Math.min(call, 399) - 7);
+        }
+        DUE.is("call 512", x.count(10), 9 + 9 - 2 + 5);
     }
 
     private static void countOfAnotherWhat() {

@@ -35,6 +35,7 @@ final class EdgesOfDaysTest {
         namesOneBehindAnother();
         namesAboard();
         valuesAreOneOrZero();
+        valuesAreLongs();
         bothSides();
         cutTowardsZero();
         errors();
@@ -552,6 +553,18 @@ final class EdgesOfDaysTest {
         DUE.is("a sum of comparisons", value("(1<2)+(2<=2)+(3=3)+(3<>4)+(4>=4)+(5>4)"), 6);
         DUE.is("a sum of others", value("(2 and 3)+(0 or 5)+(not 0)"), 3);
         DUE.is("below 0", value("0-1<0"), 1);
+    }
+
+    private static void valuesAreLongs() {
+        DUE.says("Terms 2", "VALUES are longs");
+        DUE.is("2 to the 31", value("4096*4096*128"), 2147483648L);
+        DUE.is("2 to the 32", value("4096*4096*256"), 4294967296L);
+        DUE.is("below -2 to the 31", value("0-4096*4096*128-1"), -2147483649L);
+        DUE.is("a sum of such", value("1000*1000*1000+1000*1000*1000+1000*1000*1000"), 3000000000L);
+        DUE.is("cut", value("1000*1000*1000*10/3"), 3333333333L);
+        DUE.is("compared", value("4096*4096*256>1"), 1);
+        DUE.is("not 0", value("4096*4096*256 and 1"), 1);
+        DUE.is("not not 0", value("not 4096*4096*256"), 0);
     }
 
     private static void bothSides() {

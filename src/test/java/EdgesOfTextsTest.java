@@ -42,6 +42,8 @@ final class EdgesOfTextsTest {
         tokensThatAreNone();
         longWords();
         moreMustCome();
+        cantStandThere();
+        numbersBeyond();
         sixthOnes();
         ninthOpen();
         knots65();
@@ -656,6 +658,51 @@ final class EdgesOfTextsTest {
         DUE.is("text(6) of room 1;", x.text(6), -1);
         DUE.is("its fault", x.fault(0), 1);
         DUE.is("its place is the length, not the tape's", x.fault(1), 6);
+    }
+
+    /** Every token at every place of a line where another one must stand. */
+    private static void cantStandThere() {
+        DUE.says("Terms 1", "1 a TOKEN that is none (a word of more than 6 letters that is none of the language, too) or can't stand there");
+        String[] tokens = {"1", "b", "man", "sort", "deed", "send", "want", "room", "storm", "seed", "law", "fare", "gain", "mix", "or", "and", "not",
+            "size", "rate", "pence", "aboard", "away", "worth", "day", "+", "-", "*", "/", "<", "<=", "=", "<>", ">=", ">", "(", ")", ";"};
+        // what may stand at a place is in its list
+        String[][] places = {{"", "man sort deed send want room storm seed law"}, {"man ", "b"}, {"man b ", "1"}, {"man b 1 ", ";"}, {"sort ", "b"},
+            {"sort b ", "1"}, {"sort b 1 ", "1"}, {"sort b 1 1 ", ";"}, {"deed ", "b"}, {"deed b ", "1"}, {"deed b 1 ", ";"}, {"send ", "b"},
+            {"send a ", "b"}, {"send a s ", "1"}, {"send a s 1 ", ";"}, {"want ", "b"}, {"want a ", "b"}, {"want a d ", "1"}, {"want a d 1 ", "1"},
+            {"want a d 1 1 ", "1"}, {"want a d 1 1 1 ", ";"}, {"room ", "1"}, {"room 1 ", ";"}, {"storm ", "1"}, {"storm 1 ", ";"}, {"seed ", "1"},
+            {"seed 1 ", ";"}, {"law ", "fare gain mix"}, {"law mix ", "1 size rate pence aboard away worth day not ("},
+            {"law mix 1 ", "+ - * / < <= = <> >= > and or ;"}, {"law mix 1 < ", "1 size rate pence aboard away worth day ("},
+            {"law mix 1 < 1 ", "+ - * / and or ;"}, {"law mix 1 + ", "1 size rate pence aboard away worth day ("},
+            {"law mix 1 and ", "1 size rate pence aboard away worth day not ("}, {"law mix not ", "1 size rate pence aboard away worth day not ("},
+            {"law mix ( ", "1 size rate pence aboard away worth day not ("}, {"law mix ( 1 ", "+ - * / < <= = <> >= > and or )"},
+            {"law mix ( 1 ) ", "+ - * / < <= = <> >= > and or ;"}};
+        for (String[] place : places) {
+            for (String token : tokens) {
+                if (!(" " + place[1] + " ").contains(" " + token + " ")) {
+                    faults(1, TOLD + place[0] + "^" + token + " 1;");
+                }
+            }
+        }
+    }
+
+    private static void numbersBeyond() {
+        DUE.says("Terms 1", "2 too much (at it): a number beyond what is said");
+        Object[][] places = {{"man b ", 0, 999, ""}, {"sort t ", 1, 9, " 1"}, {"sort t 1 ", 0, 99, ""}, {"deed e ", 0, 31, ""}, {"send a s ", 0, 99, ""},
+            {"want a d ", 0, 1, " 1 1"}, {"want a d 1 ", 0, 99, " 1"}, {"want a d 1 1 ", 0, 99, ""}, {"room ", 1, 30, ""}, {"storm ", 0, 100, ""},
+            {"seed ", 0, 99999, ""}, {"law gain ", 0, 9999, ""}, {"law mix 1+(", 0, 9999, ")"}};
+        for (Object[] place : places) {
+            int least = (Integer) place[1];
+            int most = (Integer) place[2];
+            right(TOLD + place[0] + least + place[3] + ";", 4);
+            right(TOLD + place[0] + most + place[3] + ";", 4);
+            right(TOLD + place[0] + "000" + most + place[3] + ";", 4);
+            faults(2, TOLD + place[0] + "^" + (most + 1) + place[3] + ";");
+            faults(2, TOLD + place[0] + "^" + (most + 4294967296L) + place[3] + ";");
+            faults(2, TOLD + place[0] + "^" + "9".repeat(400) + place[3] + ";");
+            if (least > 0) {
+                faults(2, TOLD + place[0] + "^" + (least - 1) + place[3] + ";");
+            }
+        }
     }
 
     private static void sixthOnes() {
