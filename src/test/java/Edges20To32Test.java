@@ -245,6 +245,13 @@ final class Edges20To32Test {
         // the earlier one isn't due: then the later one stands for the part
         PartsFerry y = DUE.ferry("man a 0;sort s 1 5;send a s 1;send a s 0;");
         loadIs("by the one that is due", y, 2, 5);
+        // what is alike in one of person and sort alone is another part
+        String two = "man a 0;man b 0;sort s 1 5;sort t 1 7;";
+        loadIs("b's and a's s", DUE.ferry(two + "send b s 0;send a s 0;"), 3, 10);
+        loadIs("a's and b's s", DUE.ferry(two + "send a s 0;send b s 0;"), 3, 10);
+        loadIs("t and s of a", DUE.ferry(two + "send a t 0;send a s 0;"), 3, 12);
+        loadIs("s and t of a", DUE.ferry(two + "send a s 0;send a t 0;"), 3, 12);
+        loadIs("b's t and a's s", DUE.ferry(two + "send b t 0;send a s 0;"), 3, 12);
     }
 
     private static void loadOfLeastBits() {

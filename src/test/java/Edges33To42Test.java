@@ -38,6 +38,7 @@ final class Edges33To42Test {
         triedNoSuchOnes();
         triedChangesNothing();
         undoEachKind();
+        undoThatOneAlone();
         undoTheLatestFirst();
         undoTwentyAtMost();
         undoIfNoDayWentBy();
@@ -552,6 +553,29 @@ final class Edges33To42Test {
         DUE.is("pence", x.man(0, 0), 9);
         x.go(1);
         DUE.is("it goes as told", x.port(0, 0), 1);
+        x.send(1, 0, 7);
+        DUE.is("undo send", x.undo(), 0);
+        DUE.is("what has gone stays so", x.sending(0, 3), 1);
+    }
+
+    private static void undoThatOneAlone() {
+        PartsFerry x = DUE.ferry("man a 9;man b 9;man c 9;sort s 1 1;sort t 1 1;send a s 0;send b s 0;");
+        x.take(0);
+        x.take(1);
+        x.send(2, 0, 7);
+        DUE.is("undo send", x.undo(), 2);
+        DUE.is("the first one is taken back still", x.sending(0, 3), 2);
+        DUE.is("the second one is taken back still", x.sending(1, 3), 2);
+        DUE.is("undo take", x.undo(), 1);
+        DUE.is("the first one is taken back still", x.sending(0, 3), 2);
+        DUE.is("the second one is to go", x.sending(1, 3), 0);
+        x.swap(0, 1, 0);
+        x.swap(2, 1, 1);
+        DUE.is("undo swap", x.undo(), 2);
+        for (int man = 0; man < 3; man++) {
+            DUE.is("s of " + man, x.holds(man, 0), man == 2 ? 2 : 1 - man);
+            DUE.is("t of " + man, x.holds(man, 1), man);
+        }
     }
 
     private static void undoTheLatestFirst() {

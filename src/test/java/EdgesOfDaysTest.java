@@ -27,6 +27,7 @@ final class EdgesOfDaysTest {
         mixIsntZero();
         mixOfEachSort();
         theFirstTwo();
+        mixOfFiveByFive();
         atTheOtherPort();
         theNextDay();
         namesOfFare();
@@ -426,6 +427,22 @@ final class EdgesOfDaysTest {
         DUE.is("b held a's, now c's", y.holds(1, 0), 2);
         DUE.is("c holds a's", y.holds(2, 0), 0);
         DUE.is("a holds b's still", y.holds(0, 0), 1);
+    }
+
+    private static void mixOfFiveByFive() {
+        DUE.says("Terms 2", "of each SORT, by numbers");
+        String five = "man a 9;man b 9;man c 9;man d 9;man e 9;sort s 1 0;sort t 1 0;sort u 1 0;sort v 1 0;sort w 1 0;storm 100;";
+        for (String law : new String[] {"", "law mix 1;"}) {
+            PartsFerry x = DUE.ferry(five + "send e s 0;send c s 0;send e w 0;send d w 0;send a t 0;send e u 0;" + law);
+            x.go(1);
+            int[][] due = {{0, 1, 4, 3, 2}, {0, 1, 2, 3, 4}, {0, 1, 2, 3, 4}, {0, 1, 2, 3, 4}, {0, 1, 2, 4, 3}};
+            for (int sort = 0; sort < 5; sort++) {
+                for (int man = 0; man < 5; man++) {
+                    DUE.is("what " + man + " holds of " + sort + " by " + law, x.holds(man, sort), due[sort][man]);
+                }
+            }
+            DUE.is("mixed", x.count(11), 4);
+        }
     }
 
     private static void atTheOtherPort() {

@@ -618,6 +618,8 @@ final class EdgesOfTextsTest {
                 faults(1, "law fare ^" + sign + "1;");
                 faults(1, "law fare 1^" + sign + "1;");
                 faults(1, "law fare 1<^" + sign + "1;");
+                faults(1, "law fare 1^" + sign + "=1;");
+                faults(1, "law fare 1^" + sign + ">1;");
             }
         }
     }
