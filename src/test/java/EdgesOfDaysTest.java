@@ -17,6 +17,7 @@ final class EdgesOfDaysTest {
         hasntGone();
         notAboardTwice();
         whatIsLeftOfTheRoom();
+        sendingsByNumbers();
         penceAtLeast();
         faresWithin();
         faresWithout();
@@ -236,6 +237,27 @@ final class EdgesOfDaysTest {
         PartsFerry y = DUE.ferry("man a 0;man b 99;sort s 3 5;send a s 0;send b s 0;room 3;");
         y.go(1);
         DUE.is("who can't pay takes no room", y.sending(1, 3), 1);
+    }
+
+    private static void sendingsByNumbers() {
+        DUE.says("Terms 2", "by numbers each SENDING");
+        // not by people, sorts, or the days from which on they are due
+        PartsFerry x = DUE.ferry("man a 9;man b 9;sort s 1 1;sort t 1 1;send b t 2;send a s 0;send b s 1;room 1;");
+        x.take(1);
+        x.send(0, 0, 2);
+        int[][] due = {{0, 0, 0}, {0, 0, 0}, {0, 0, 0}, {1, 0, 0}, {1, 0, 0}, {1, 1, 0}, {1, 1, 0}, {1, 1, 1}};
+        for (int day = 0; day < due.length; day++) {
+            DUE.is("the first one on day " + day, x.sending(0, 3), due[day][0]);
+            DUE.is("the third one on day " + day, x.sending(2, 3), due[day][1]);
+            DUE.is("the one put by call on day " + day, x.sending(3, 3), due[day][2]);
+            x.go(1);
+        }
+        // each one pays for those that are aboard ahead of it
+        PartsFerry y = DUE.ferry("man a 99;man b 99;man c 99;sort s 1 1;send c s 0;send a s 0;send b s 0;law fare aboard*10+1;");
+        y.go(1);
+        DUE.is("c is the first one", y.man(2, 0), 98);
+        DUE.is("a is the second one", y.man(0, 0), 88);
+        DUE.is("b is the third one", y.man(1, 0), 78);
     }
 
     private static void penceAtLeast() {

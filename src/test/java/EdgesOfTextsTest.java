@@ -140,6 +140,9 @@ final class EdgesOfTextsTest {
         faults(1, "law ^1;");
         faults(1, "law ^(1);");
         faults(1, "law ^;");
+        for (int number = 0; number < 32; number++) {
+            faults(1, "law ^" + number + " 1;");
+        }
         for (String word : LINE_WORDS) {
             faults(1, "law ^" + word + " 1;");
         }
@@ -768,6 +771,13 @@ final class EdgesOfTextsTest {
         faults(2, "law fare " + KNOTS_64 + " ^or 1;");
         faults(2, "law fare " + KNOTS_63 + " and ^not 1;");
         faults(2, "law fare " + KNOTS_62 + " not not ^not 1;");
+        // what can't stand there is no 65th one
+        for (String none : new String[] {"", ";", ")", "+1;", "and 1;", "man;", "a;", "?;"}) {
+            faults(1, "law fare " + KNOTS_63 + "+^" + none);
+        }
+        for (String none : new String[] {"", "1;", "day;", "not 1;", "(1);", ")", "man;", "a;", "?;"}) {
+            faults(1, "law fare " + KNOTS_64 + " ^" + none);
+        }
         for (String name : NAMES) {
             faults(2, "law fare " + KNOTS_63 + "+^" + name + ";");
             right("law fare not " + KNOTS_63.substring(0, KNOTS_63.length() - 1) + name + ";", 1);
