@@ -189,6 +189,12 @@ final class Edges20To32Test {
         loadIs("b's is at port 1", x, 4, 5);
         x.go(1);
         loadIs("on day 2 a's again", x, 1, 5);
+        PartsFerry y = DUE.ferry("man a 9;man b 9;sort s 1 5;send a s 0;send b s 2;");
+        y.go(2);
+        y.send(0, 0, 2);
+        loadIs("a's is at port 1, the boat at port 0", y, 2, 5);
+        y.go(1);
+        loadIs("on day 3 a's", y, 4, 5);
     }
 
     private static void loadByRates() {

@@ -35,6 +35,7 @@ final class Edges33To42Test {
         triedWithRoom();
         triedFree();
         triedWithOwnParts();
+        triedOneThingAlone();
         triedNoSuchOnes();
         triedChangesNothing();
         undoEachKind();
@@ -483,6 +484,23 @@ final class Edges33To42Test {
         DUE.is("with own ones", x.tried(5, 0, 1), 2);
         DUE.is("mixed still", x.count(11), 2);
         DUE.is("held as before", x.holds(0, 0), 1);
+    }
+
+    /** Each of the six changes one thing: where pence, room or a sending matter, the other five answer alike. */
+    private static void triedOneThingAlone() {
+        DUE.says("Terms 3", "0 as it goes, 1 no storms, 2 PERSON i sends nothing, 3 the room is 99, 4 all is free (fares 0, whatever the law), "
+                + "5 each HOLDS the own PARTS now");
+        String[] texts = {"man z 0;man a 4;sort s 1 5;deed d 1;send a s 0;want a d 1 1 5;", "man z 0;man a 9;sort s 9 5;deed d 1;send a s 0;want a d 1 1 5;room 8;",
+            "man a 9;sort s 1 5;deed d 1;send a s 0;want a d 1 1 5;"};
+        int[][] due = {{0, 0, 0, 0, 1, 0}, {0, 0, 0, 1, 0, 0}, {1, 1, 0, 1, 1, 1}};
+        for (int i = 0; i < texts.length; i++) {
+            for (String storm : new String[] {"", "storm 100;"}) {
+                PartsFerry x = DUE.ferry(texts[i] + storm);
+                for (int what = 0; what <= 5; what++) {
+                    DUE.is("tried(" + what + ", 0, 2) of " + texts[i] + storm, x.tried(what, 0, 2), due[i][what]);
+                }
+            }
+        }
     }
 
     private static void triedNoSuchOnes() {
