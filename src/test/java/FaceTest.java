@@ -1,4 +1,6 @@
+import com.sun.management.ThreadMXBean;
 import java.io.IOException;
+import java.lang.management.ManagementFactory;
 import java.lang.reflect.Constructor;
 import java.lang.reflect.Field;
 import java.lang.reflect.InvocationTargetException;
@@ -30,6 +32,7 @@ final class FaceTest {
         theInside();
         theSource();
         roughCalls();
+        noObjects();
         DUE.end();
     }
 
@@ -128,6 +131,37 @@ final class FaceTest {
                 }
             }
         }
+    }
+
+    /** All calls of a run live in one room: none makes an object. Reflection would, so the calls stand in everyCall. */
+    private static void noObjects() {
+        PartsFerry[] ferries = new PartsFerry[20];
+        for (int i = 0; i < ferries.length; i++) {
+            ferries[i] = DUE.ferry("man a 99;man b 70;sort s 2 3;sort t 5 9;deed d 3;deed e 1;send a s 0;send b s 0;send a t 1;"
+                    + "want a d 0 0 9;want b e 1 1 5;storm 60;law fare size*(day+1)/(aboard+1);law gain worth/day;law mix away>1;");
+        }
+        int[] fed = {0x6d616e20, 0x61203230, 0x3b20206c, 0x61772067, 0x61696e20};
+        ThreadMXBean threads = (ThreadMXBean) ManagementFactory.getThreadMXBean();
+        long answers = everyCall(ferries[0], fed);
+        long before = threads.getCurrentThreadAllocatedBytes();
+        // nine rounds of some fifty calls: an object is good for 512
+        for (int round = 0; round < 9 * ferries.length; round++) {
+            answers += everyCall(ferries[round % ferries.length], fed);
+        }
+        long made = threads.getCurrentThreadAllocatedBytes() - before;
+        // what the machine itself makes now and then is less than the least object in each round
+        DUE.is("bytes made by calls (" + answers + "), " + made + ", are few", made < 9 * ferries.length * 16, true);
+    }
+
+    private static long everyCall(PartsFerry x, int[] fed) {
+        long sum = x.feed(fed[0], fed[1], fed[2], fed[3], fed[4]) + x.text(20) + x.fault(0) + x.named(0, 1 << 25);
+        sum += x.man(0, 0) + x.sort(0, 0) + x.deed(0) + x.sending(0, 0) + x.want(0, 0) + x.holds(0, 0) + x.port(0, 0);
+        sum += x.can(0, 0, 0) + x.law(0, 0, 0) + x.law(1, 0, 0) + x.law(2, 0, 0) + x.keep() + x.send(0, 0, 50);
+        sum += (x.take(2) ? 1 : 0) + (x.swap(0, 1, 0) ? 1 : 0) + x.lend(0, 9) + x.undo() + x.go(3) + x.ahead(20, 0, 0);
+        sum += x.first(0, 0, 1) + x.load(0) + x.order(4) + x.swaps() + x.together(0, 1, 0) + x.needs(0, 0, 1);
+        sum += x.cheap(0, 0, 1) + x.rests(0, 1, 0) + x.rest(0, 1, 0, 0) + x.calm(3, 0) + x.whose(0, 0) + x.those(0);
+        sum += x.see(3, 0, 0, true) + x.out(0) + (x.known(-1) ? 1 : 0) + x.rooms() + x.chance(7, 9, 1) + x.tried(5, 0, 20);
+        return sum + x.back() + x.count(11);
     }
 
     private static Object rough(Random random) {
